@@ -1109,9 +1109,10 @@ public final class FencingMeet {
             phase = TABLE;
         }
 
+        /** A seed without a fencer is one of the greater ones, which stand on the right side of the first round. */
         private void passBye(int bout) {
-            if (!bouts.knowsBoth(bout)) {
-                bouts.close(bout, bouts.fencerOn(bout, LEFT) == NONE ? RIGHT : LEFT, BYE);
+            if (bouts.fencerOn(bout, RIGHT) == NONE) {
+                bouts.close(bout, LEFT, BYE);
                 advance(bout);
             }
         }

@@ -152,6 +152,12 @@ public final class PromiseTests {
         Checks.fails("3: the argument comes first", ARGUMENT, () -> onePool(3).drawPools(7));
         Checks.fails("3: drawn already", STATE, () -> onePool(3).drawPools(1));
         Checks.due("3: one pool of 24", 276, () -> onePool(24).meet(3));
+        FencingMeet six = with(0, 1, 0, 2, 0, 3, 0, 4, 0, 5, 0, 6, 0, 7, 0, 8, 0, 9, 0, 10, 0, 11, 0, 12, 0, 13,
+                0, 14, 0, 15, 0, 16, 0, 17);
+        Checks.fails("3: six pools of 17", STATE, () -> six.drawPools(6));
+        six.addFencer(0, 18);
+        Checks.due("3: six pools of 18", 18, () -> six.drawPools(6));
+        Checks.due("7: members of the last one", 3, () -> six.members(5));
 
         // rows by strength: 4 1 2 / 0 5 3 / 6 7 8; the second row goes from the last pool on
         FencingMeet m = with(0, 5, 0, 3, 1, 3, 2, 9, 1, 1, 0, 7, 1, 20, 3, 30, 3, 40);
@@ -406,6 +412,9 @@ public final class PromiseTests {
         Checks.due("5: yellow cards", 1, () -> m.fencer(0, 5));
         Checks.due("5: red cards", 1, () -> m.fencer(0, 6));
         Checks.due("5: yellow cards of the other", 1, () -> m.fencer(1, 5));
+        Checks.due("16: red for the right side", 1, () -> m.card(1, 1));
+        Checks.due("16: gives the left side a touch", 1, () -> m.bout(0, 2));
+        m.undo();
         m.touch(0);
         m.time();
         m.undo();
@@ -457,6 +466,17 @@ public final class PromiseTests {
         Checks.due("16: the other side wins the bout", 3, () -> table.bout(6, 5));
         Checks.due("16: and advances", 3, () -> table.bout(8, 0));
         Checks.due("16: bouts of the pool stand", 2, () -> table.bout(0, 4));
+        FencingMeet last = onePool(24);
+        last.begin(275);
+        for (int kind = 0; kind < 3; kind++) {
+            last.card(1, kind);
+        }
+        for (int kind = 0; kind < 3; kind++) {
+            int what = 5 + kind;
+            Checks.due("5: card of the last fencer " + what, 1, () -> last.fencer(23, what));
+            Checks.due("5: card of the one before " + what, 0, () -> last.fencer(22, what));
+        }
+        Checks.due("32: cards of the last fencer", 3, () -> last.account(7));
         Checks.due("16: black behind yellow", 2, () -> {
             table.begin(7);
             table.card(1, 0);
@@ -512,6 +532,10 @@ public final class PromiseTests {
         table.undo();
         Checks.due("17: in the table", 2, () -> table.enter(4, 14, 15, -1));
         Checks.due("17: the final", 0, () -> table.enter(5, 7, 7, 0));
+        FencingMeet right = withTable(4);
+        right.enter(7, 15, 0, -1);
+        refused(right, 3, 8, 15, 0, -1);
+        Checks.fails("13: the left one is not known", UNSUPPORTED, () -> right.begin(8));
         Checks.due("17: over", 3, () -> table.meet(0));
     }
 
@@ -579,6 +603,7 @@ public final class PromiseTests {
         m.undo();
         m.undo();
         m.enter(5, 5, 2, -1);
+        Checks.due("22: counted anew", 1, () -> m.place(2));
         Checks.due("23: all equal but the strength", 4, () -> m.why(3, 2));
         m.undo();
         m.enter(5, 4, 1, -1);
@@ -803,6 +828,10 @@ public final class PromiseTests {
 
         Checks.due("29: in place of the one before", 4, () -> m.beginRelay(0, 1));
         Checks.due("31: begun anew", 0, () -> m.relay(0) + m.relay(1) + m.relay(2) + m.relay(6));
+        Checks.due("30: the limit is that of each total", 8, () -> m.leg(5, 5));
+        Checks.fails("30: the first one's", ARGUMENT, () -> m.leg(6, 5));
+        Checks.fails("30: the other one's", ARGUMENT, () -> m.leg(5, 6));
+        m.undo();
         Checks.due("31: undecided anew", -1, () -> m.relay(3));
         m.undo();
         Checks.due("31: the one before is back", 9, () -> m.relay(0));
@@ -818,6 +847,8 @@ public final class PromiseTests {
             Checks.due("31: drawn from " + seed, club, () -> m.relay(3));
             Checks.due("31: was drawn", 1, () -> m.relay(6));
         }
+        m.beginRelay(0, 1);
+        Checks.due("31: the next one is not drawn", 0, () -> m.relay(6));
 
         // fencer 1 is the best of club 1; with a black card, 7 is the third of the club
         FencingMeet black = withTable(8);
@@ -1058,6 +1089,8 @@ public final class PromiseTests {
         Checks.due("37: in place of the earlier one", 2, () -> s.bout(28, 4));
         Checks.due("37: with who advanced", 0, () -> s.bout(32, 0));
 
+        restoreAnother();
+
         FencingMeet kept = onePool(3);
         kept.save();
         Checks.fails("18: refused", UNSUPPORTED, () -> kept.enter(0, 5, 5, 0));
@@ -1073,5 +1106,79 @@ public final class PromiseTests {
         kept.begin(0);
         kept.restore();
         Checks.fails("38: no bout is in progress", ELEMENT, kept::current);
+    }
+
+    /** What is restored comes back whole, though another meet with other fencers, pools and relays stood between. */
+    private static void restoreAnother() {
+        FencingMeet m = new FencingMeet();
+        m.save();
+        for (int i = 0; i < 8; i++) {
+            m.addFencer(i / 4, i + 1);
+        }
+        int bouts = m.drawPools(2);
+        for (int bout = 0; bout < bouts; bout++) {
+            m.enter(bout, 2, 3, -1);
+        }
+        m.drawTable();
+        m.enter(m.tableBout(8, 0), 15, 7, -1);
+        m.beginRelay(0, 1);
+        for (int leg = 0; leg < 9; leg++) {
+            m.leg(1, 1);
+        }
+        String first = allAnswers(m);
+        m.restore();
+        Checks.due("38: nothing but the new meet", allAnswers(new FencingMeet()), () -> allAnswers(m));
+        for (int i = 0; i < 12; i++) {
+            m.addFencer(3 - i / 4, 20 - i);
+        }
+        Checks.due("38: entered without what was before", 0, () -> java.util.stream.IntStream.range(0, 12)
+                .map(f -> m.fencer(f, 4) + m.fencer(f, 5) + m.fencer(f, 6) + m.fencer(f, 7)).sum());
+        bouts = m.drawPools(1);
+        m.begin(0);
+        m.card(0, 0);
+        m.card(0, 1);
+        m.card(0, 2);
+        m.begin(bouts - 1);
+        m.card(1, 0);
+        m.card(1, 0);
+        m.card(1, 2);
+        for (int bout = 0; bout < bouts; bout++) {
+            if (m.bout(bout, 4) == 0) {
+                m.enter(bout, 4, 1, -1);
+            }
+        }
+        m.drawTable();
+        m.save();
+        String second = allAnswers(m);
+        m.enter(m.tableBout(16, 1), 15, 7, -1);
+        m.beginRelay(2, 3);
+        Checks.isTrue("38: it has changed", !second.equals(allAnswers(m)));
+        m.undo();
+        m.undo();
+        Checks.due("36: undone whole", second, () -> allAnswers(m));
+        Checks.isTrue("38: these are two meets", !first.equals(second));
+        m.enter(m.tableBout(16, 1), 15, 7, -1);
+        m.restore();
+        Checks.due("38: restored whole", second, () -> allAnswers(m));
+    }
+
+    private static String allAnswers(FencingMeet m) {
+        StringBuilder text = new StringBuilder();
+        for (int a = 0; a < 32; a++) {
+            for (int b = 0; b < 24; b++) {
+                int i = a;
+                int j = b;
+                text.append(Checks.answerOf(() -> m.fencer(i, j))).append(Checks.answerOf(() -> m.member(i, j)));
+                text.append(Checks.answerOf(() -> m.bout(2 * i, j))).append(Checks.answerOf(() -> m.bout(2 * i + 1, j)));
+                text.append(Checks.answerOf(() -> m.poolBout(i, j))).append(Checks.answerOf(() -> m.why(i, j)));
+                text.append(Checks.answerOf(() -> m.tableBout(i, j))).append(Checks.answerOf(() -> m.result(i, j)));
+            }
+            int i = a;
+            text.append(Checks.answerOf(() -> m.meet(i))).append(Checks.answerOf(() -> m.account(i)));
+            text.append(Checks.answerOf(() -> m.members(i))).append(Checks.answerOf(() -> m.relay(i)));
+            text.append(Checks.answerOf(() -> m.seeded(i))).append(Checks.answerOf(() -> m.toGo(i)));
+            text.append(Checks.answerOf(() -> m.finalist(i))).append(Checks.answerOf(() -> m.ranked(i)));
+        }
+        return text.append(Checks.answerOf(m::clubPairs)).append(Checks.answerOf(m::current)).toString();
     }
 }
