@@ -1090,6 +1090,7 @@ public final class PromiseTests {
         Checks.due("37: with who advanced", 0, () -> s.bout(32, 0));
 
         restoreAnother();
+        restoreOtherWay();
 
         FencingMeet kept = onePool(3);
         kept.save();
@@ -1120,11 +1121,18 @@ public final class PromiseTests {
             m.enter(bout, 2, 3, -1);
         }
         m.drawTable();
-        m.enter(m.tableBout(8, 0), 15, 7, -1);
         m.beginRelay(0, 1);
         for (int leg = 0; leg < 9; leg++) {
             m.leg(1, 1);
         }
+        for (int index = 0; index < 4; index++) {
+            m.begin(m.tableBout(8, index));
+            for (int kind = 0; kind < 3; kind++) {
+                m.card(1 - index % 2, Math.min(kind, 1));
+                m.card(index % 2, kind);
+            }
+        }
+        Checks.due("16: four are excluded", 4, () -> m.meet(4));
         String first = allAnswers(m);
         m.restore();
         Checks.due("38: nothing but the new meet", allAnswers(new FencingMeet()), () -> allAnswers(m));
@@ -1160,6 +1168,53 @@ public final class PromiseTests {
         m.enter(m.tableBout(16, 1), 15, 7, -1);
         m.restore();
         Checks.due("38: restored whole", second, () -> allAnswers(m));
+    }
+
+    /** What is restored comes back whole, though changes were undone and others made in their place. */
+    private static void restoreOtherWay() {
+        FencingMeet m = with(1, 10, 1, 20, 1, 30);
+        m.save();
+        String first = allAnswers(m);
+        for (int i = 0; i < 3; i++) {
+            m.undo();
+        }
+        for (int i = 0; i < 5; i++) {
+            m.addFencer(2, 30 - i);
+        }
+        m.restore();
+        Checks.due("38: the fencers of before", first, () -> allAnswers(m));
+
+        for (int i = 0; i < 3; i++) {
+            m.addFencer(3, 40 - i);
+        }
+        m.drawPools(2);
+        m.save();
+        String second = allAnswers(m);
+        for (int i = 0; i < 4; i++) {
+            m.undo();
+        }
+        for (int i = 0; i < 5; i++) {
+            m.addFencer(4, i + 1);
+        }
+        m.drawPools(2);
+        m.restore();
+        Checks.due("38: the pools of before", second, () -> allAnswers(m));
+
+        for (int bout = 0; bout < 6; bout++) {
+            m.enter(bout, 5, bout % 3, -1);
+        }
+        m.drawTable();
+        m.save();
+        String third = allAnswers(m);
+        for (int i = 0; i < 7; i++) {
+            m.undo();
+        }
+        for (int bout = 0; bout < 6; bout++) {
+            m.enter(bout, bout % 3, 4, -1);
+        }
+        m.drawTable();
+        m.restore();
+        Checks.due("38: the table of before", third, () -> allAnswers(m));
     }
 
     private static String allAnswers(FencingMeet m) {
