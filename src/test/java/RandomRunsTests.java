@@ -10,7 +10,8 @@ import java.util.Map;
 public final class RandomRunsTests {
     private static final int RUNS = 3000;
     private static final int CALLS = 500;
-    private static final int[] ODD = {Integer.MIN_VALUE, -1, 0, 1, 2, 3, 5, 6, 7, 8, 9, 16, 32, 100, 306, 307, 1000, Integer.MAX_VALUE};
+    private static final int[] ODD = {Integer.MIN_VALUE, -1, 0, 1, 2, 3, 5, 6, 7, 8, 9, 16, 32, 100, 306, 307, 1000,
+        Integer.MAX_VALUE};
     private static final Map<String, Method> OF_CLASS = methods(FencingMeet.class);
     private static final Map<String, Method> OF_ORACLE = methods(Oracle.class);
     private static final List<String> QUERIES = List.of("fencer", "meet", "members", "member", "clubPairs", "bout",
