@@ -23,7 +23,7 @@ final class Answers {
 
     /** Checks that a call leaves the state as it is, whether it throws or not, but for the answer to one question. */
     static void unchanged(String what, String but, Supplier<FencingMeet> start, Consumer<FencingMeet> call) {
-        same(what, but, () -> behind(start, call), start);
+        same(what, but, () -> behindRefused(start, call), start);
     }
 
     static void unchanged(String what, Supplier<FencingMeet> start, Consumer<FencingMeet> call) {
@@ -51,8 +51,14 @@ final class Answers {
         }
     }
 
-    /** The meet behind a call, whether this throws or not. */
     static FencingMeet behind(Supplier<FencingMeet> start, Consumer<FencingMeet> call) {
+        FencingMeet m = start.get();
+        call.accept(m);
+        return m;
+    }
+
+    /** The meet behind a call, whether this throws or not. */
+    static FencingMeet behindRefused(Supplier<FencingMeet> start, Consumer<FencingMeet> call) {
         FencingMeet m = start.get();
         Checks.answerOf(() -> {
             call.accept(m);

@@ -1037,6 +1037,7 @@ public final class PromiseTests {
         Checks.due("37: with who advanced", 0, () -> s.bout(32, 0));
 
         restoreAnother();
+        restoreSmaller();
         restoreOtherWay();
 
         FencingMeet kept = Meets.onePool(3);
@@ -1146,6 +1147,44 @@ public final class PromiseTests {
             }
         }
         m.drawTable();
+    }
+
+    /** Nothing is left of a greater meet when a smaller one is restored and fenced to its end. */
+    private static void restoreSmaller() {
+        Supplier<FencingMeet> small = () -> {
+            FencingMeet m = Meets.entered(5);
+            m.save();
+            m.setSeed(1);
+            return m;
+        };
+        Consumer<FencingMeet> toTable = m -> {
+            int bouts = m.drawPools(1);
+            for (int bout = 0; bout < bouts; bout++) {
+                m.enter(bout, 5, 1, -1);
+            }
+            m.drawTable();
+        };
+        Consumer<FencingMeet> toEnd = m -> {
+            toTable.accept(m);
+            m.enter(11, 15, 1, -1);
+            m.enter(14, 15, 1, -1);
+            m.enter(15, 15, 1, -1);
+            m.enter(16, 15, 1, -1);
+        };
+        Supplier<FencingMeet> again = () -> Answers.behind(small, m -> {
+            addAs(m, 7, 1, 40);
+            toTable.accept(m);
+            m.begin(m.tableBout(16, 1));
+            m.touch(0);
+            m.restore();
+        });
+        Checks.due("36: over", 3, () -> Answers.behind(small, toEnd).meet(0));
+        Answers.same("38: a smaller one", again, small);
+        Answers.same("38: in its table", () -> Answers.behind(again, toTable), () -> Answers.behind(small, toTable));
+        Answers.same("38: to its end", () -> Answers.behind(again, toEnd), () -> Answers.behind(small, toEnd));
+        Checks.fails("29: two of the club are left", Checks.STATE,
+                () -> Answers.behind(again, toTable).beginRelay(0, 1));
+        Checks.due("28: the winner of the smaller one", 0, () -> Answers.behind(again, toEnd).toGo(0));
     }
 
     /** What is restored comes back whole, though changes were undone and others made in their place. */

@@ -329,7 +329,7 @@ public final class RefusedCallsTests {
             String what = name + ": enter " + bout + " " + r[0] + ":" + r[1] + " " + r[2];
             Consumer<FencingMeet> call = m -> m.enter(bout, r[0], r[1], r[2]);
             Checks.fails(what, Checks.UNSUPPORTED, () -> call.accept(start.get()));
-            Checks.due(what + ": the reason", first > 0 ? first : r[3], () -> Answers.behind(start, call).refusal());
+            Checks.due(what + ": the reason", first > 0 ? first : r[3], () -> Answers.behindRefused(start, call).refusal());
             Answers.unchanged(what, "refusal", start, call);
         }
         if (first == 0) {
@@ -552,7 +552,7 @@ public final class RefusedCallsTests {
             String text = texts[i];
             String what = "readResults of " + text;
             Checks.fails(what, Checks.ARGUMENT, () -> withText(text).readResults());
-            Supplier<FencingMeet> behind = () -> Answers.behind(() -> withText(text), FencingMeet::readResults);
+            Supplier<FencingMeet> behind = () -> Answers.behindRefused(() -> withText(text), FencingMeet::readResults);
             Checks.due(what + ": the fault", faults[i], () -> behind.get().faultPosition());
             Answers.same(what, "faultPosition", behind, () -> withText(""));
         }
