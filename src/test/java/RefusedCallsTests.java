@@ -329,7 +329,8 @@ public final class RefusedCallsTests {
             String what = name + ": enter " + bout + " " + r[0] + ":" + r[1] + " " + r[2];
             Consumer<FencingMeet> call = m -> m.enter(bout, r[0], r[1], r[2]);
             Checks.fails(what, Checks.UNSUPPORTED, () -> call.accept(start.get()));
-            Checks.due(what + ": the reason", first > 0 ? first : r[3], () -> Answers.behindRefused(start, call).refusal());
+            int reason = first > 0 ? first : r[3];
+            Checks.due(what + ": the reason", reason, () -> Answers.behindRefused(start, call).refusal());
             Answers.unchanged(what, "refusal", start, call);
         }
         if (first == 0) {
