@@ -13,18 +13,50 @@ import java.util.TreeSet;
 public final class FaceTests {
     private static final String SOURCE = "src/main/java/FencingMeet.java";
     private static final Set<String> FACE = Set.of(
-            "int addFencer(int, int)", "int drawPools(int)", "int setSeed(int)", "int fencer(int, int)",
-            "int meet(int)", "int members(int)", "int member(int, int)", "int clubPairs()", "int bout(int, int)",
-            "int current()", "int poolBout(int, int)", "int begin(int)", "int touch(int)", "int time()",
-            "int card(int, int)", "int enter(int, int, int, int)", "int refusal()", "int result(int, int)",
-            "double ratio(int)", "int ranked(int)", "int place(int)", "int why(int, int)", "int drawTable()",
-            "int seeded(int)", "int tableBout(int, int)", "int finalist(int)", "int toGo(int)",
-            "int beginRelay(int, int)", "int leg(int, int)", "int relay(int)", "int account(int)",
-            "void append(char)", "int readResults()", "int faultPosition()", "int undo()", "void save()",
-            "void restore()");
+            "int addFencer(int, int) throws IllegalArgumentException, IllegalStateException",
+            "int drawPools(int) throws IllegalArgumentException, IllegalStateException",
+            "int setSeed(int) throws IllegalArgumentException",
+            "int fencer(int, int) throws IndexOutOfBoundsException, IllegalArgumentException",
+            "int meet(int) throws IllegalArgumentException",
+            "int members(int) throws IndexOutOfBoundsException",
+            "int member(int, int) throws IndexOutOfBoundsException, NoSuchElementException",
+            "int clubPairs()",
+            "int bout(int, int) throws IndexOutOfBoundsException, IllegalArgumentException",
+            "int current() throws NoSuchElementException",
+            "int poolBout(int, int) throws IndexOutOfBoundsException, NoSuchElementException",
+            "int begin(int) throws IndexOutOfBoundsException, UnsupportedOperationException",
+            "int touch(int) throws IllegalArgumentException, IllegalStateException",
+            "int time() throws IllegalStateException",
+            "int card(int, int) throws IllegalArgumentException, IllegalStateException",
+            "int enter(int, int, int, int) throws IndexOutOfBoundsException, UnsupportedOperationException",
+            "int refusal() throws NoSuchElementException",
+            "int result(int, int) throws IndexOutOfBoundsException, IllegalArgumentException",
+            "double ratio(int) throws IndexOutOfBoundsException, ArithmeticException",
+            "int ranked(int) throws NoSuchElementException",
+            "int place(int) throws IndexOutOfBoundsException, NoSuchElementException",
+            "int why(int, int) throws IndexOutOfBoundsException, NoSuchElementException",
+            "int drawTable() throws IllegalStateException",
+            "int seeded(int) throws IllegalStateException, NoSuchElementException",
+            "int tableBout(int, int) throws IllegalStateException, NoSuchElementException",
+            "int finalist(int) throws IllegalStateException, NoSuchElementException",
+            "int toGo(int) throws IndexOutOfBoundsException, IllegalStateException, NoSuchElementException",
+            "int beginRelay(int, int) throws IllegalArgumentException, IllegalStateException",
+            "int leg(int, int) throws IllegalStateException, IllegalArgumentException",
+            "int relay(int) throws NoSuchElementException, IllegalArgumentException",
+            "int account(int) throws IllegalArgumentException",
+            "void append(char) throws IllegalStateException",
+            "int readResults() throws IllegalArgumentException",
+            "int faultPosition()",
+            "int undo() throws IllegalStateException",
+            "void save()",
+            "void restore() throws IllegalStateException");
     private static final List<String> NOT_IN_SOURCE = List.of("->", "::", "Exact(", "finally", "synchronized",
             "assert ", "catch", "instanceof", "NaN", "hashCode", "equals(", "toString", "Random", "System.nano",
             "System.current", "System.out", "static {", "\t");
+
+    private static final int MOST_FIELDS = 20;
+    private static final int MOST_PARAMETERS = 7;
+    private static final int MOST_LINES = 60;
 
     private FaceTests() {
     }
@@ -34,6 +66,7 @@ public final class FaceTests {
         checkOtherMembers();
         checkNestedClasses();
         checkSource();
+        checkSizes();
         Checks.end("FaceTests");
     }
 
@@ -42,7 +75,11 @@ public final class FaceTests {
         for (Class<?> type : method.getParameterTypes()) {
             text.append(text.length() == 0 ? "" : ", ").append(type.getSimpleName());
         }
-        return method.getReturnType().getSimpleName() + " " + method.getName() + "(" + text + ")";
+        StringBuilder thrown = new StringBuilder();
+        for (Class<?> type : method.getExceptionTypes()) {
+            thrown.append(thrown.length() == 0 ? " throws " : ", ").append(type.getSimpleName());
+        }
+        return method.getReturnType().getSimpleName() + " " + method.getName() + "(" + text + ")" + thrown;
     }
 
     private static void checkMethods() {
@@ -101,6 +138,37 @@ public final class FaceTests {
             Checks.isTrue("source: signs of " + line, line.chars().allMatch(c -> c >= 32 && c <= 126));
             Checks.isTrue("source: import of " + line, !line.startsWith("import ")
                     || line.equals("import java.util.NoSuchElementException;"));
+        }
+    }
+
+    private static void checkSizes() throws IOException {
+        for (Class<?> type : FencingMeet.class.getDeclaredClasses()) {
+            checkSizesOf(type);
+        }
+        checkSizesOf(FencingMeet.class);
+        List<String> lines = Files.readAllLines(Path.of(SOURCE));
+        for (int start = 0; start < lines.size(); start++) {
+            String line = lines.get(start);
+            String indent = line.substring(0, line.length() - line.stripLeading().length());
+            // a method begins at 4 or 8, and a line that goes on with another one stands farther in
+            if (line.endsWith("{") && (indent.length() == 4 || indent.length() == 8) && !line.contains(" class ")) {
+                int end = start + 1;
+                while (end < lines.size() && !lines.get(end).startsWith(indent + "}")) {
+                    end++;
+                }
+                Checks.isTrue("source: the lines from " + line, end - start < MOST_LINES);
+            }
+        }
+    }
+
+    private static void checkSizesOf(Class<?> type) {
+        int fields = 0;
+        for (Field field : type.getDeclaredFields()) {
+            fields += Modifier.isStatic(field.getModifiers()) ? 0 : 1;
+        }
+        Checks.isTrue("source: fields of " + type.getSimpleName(), fields <= MOST_FIELDS);
+        for (Method method : type.getDeclaredMethods()) {
+            Checks.isTrue("source: parameters of " + method.getName(), method.getParameterCount() <= MOST_PARAMETERS);
         }
     }
 }
